@@ -52,6 +52,9 @@ public final class PromiseTest {
         fault();
         faultOfForms();
         faultOfRanges();
+        faultOfFullTexts();
+        fullCore();
+        endlessArguments();
         System.out.println(wrong == 0 ? "all answers are as due" : wrong + " answers are not as due");
         if (wrong != 0) {
             System.exit(1);
@@ -437,6 +440,10 @@ public final class PromiseTest {
         for (int what = 0; what < counts.length; what++) {
             due("count(" + what + ")", x.count(what), counts[what]);
         }
+        VarveClock ends = laid("thick 5;layer 2;faint 1;");
+        due("count(3), the last layer", ends.count(3), 1);
+        due("count(4), the first layer", ends.count(4), 1);
+        due("count(2), the first layer", ends.count(2), 8);
         due("count(-1)", x.count(-1), INVALID);
         due("count(10)", x.count(10), INVALID);
         due("count(FAR)", x.count(FAR), INVALID);
@@ -614,6 +621,12 @@ public final class PromiseTest {
         due("total(5)", x.total(5), INVALID);
         x.addLayer(5, 1, 0, 0);
         due("total(4), at the bottom", x.total(4), 8);
+        VarveClock mixed = laid("faint 1;gap 2;faint 1;ash 3 0;thick 1;thick 1;layer 1;ash 7 0;");
+        int[] mixedTotals = {0, 1, 1, 0, 7};
+        for (int what = 0; what < mixedTotals.length; what++) {
+            due("total(" + what + ") of the mixed one", mixed.total(what), mixedTotals[what]);
+        }
+        due("total(2), behind the first layer", laid("layer 1;gap 2;layer 1;ash 4 0;faint 1;").total(2), 2);
         VarveClock signs = laid("layer 1;ash 3 2;layer 1;ash 1 1;");
         due("total(3)", signs.total(3), 3);
         signs.addAsh(1, 0, 0);
@@ -636,6 +649,12 @@ public final class PromiseTest {
         VarveClock own = laid("thick 1;gap 9;ash 4 0;");
         own.set(1, 3);
         due("as many years in two ways", own.ways(), 2);
+        VarveClock offsets = laid("layer 1;gap 2;ash 2 1;layer 1;gap 2;ash 5 1;");
+        due("one of two ashes", offsets.ways(), 1);
+        offsets.set(2, 2);
+        due("a year is as dear as the ash", offsets.ways(), 2);
+        offsets.removeAsh(0);
+        due("without the upper ash", offsets.ways(), 3 + 2);
         VarveClock free = laid("thick 1;gap 9;faint 1;gap 4;");
         free.set(0, 0);
         free.set(1, 0);
@@ -674,6 +693,11 @@ public final class PromiseTest {
         due("rate(1, 2, 1), as old", x.rate(1, 2, 1), NONE);
         due("rate(1, 4, 0)", x.rate(1, 4, 0), 49);
         due("rate(1, 4, 1)", x.rate(1, 4, 1), 3);
+        VarveClock twice = laid("layer 3;layer 3;layer 10;layer 26;");
+        due("rate(0, 4, 0), by 2", twice.rate(0, 4, 0), 21);
+        due("rate(0, 4, 1), by 2", twice.rate(0, 4, 1), 2);
+        due("rate(0, 2, 0), whole", twice.rate(0, 2, 0), 3);
+        due("rate(2, 4, 1), whole", twice.rate(2, 4, 1), 1);
         int[][] refused = {{2, 2, 0}, {3, 2, 0}, {-1, 2, 0}, {0, 5, 0}, {0, 2, -1}, {0, 2, 2}, {FAR, FAR, 0}};
         for (int i = 0; i < refused.length; i++) {
             int[] r = refused[i];
@@ -703,6 +727,8 @@ public final class PromiseTest {
         due("bound(3, 200, 1)", x.bound(3, 200, 1), 9);
         due("bound(3, 19, 1)", x.bound(3, 19, 1), 8);
         due("bound(3, 20, 1)", x.bound(3, 20, 1), 9);
+        due("no other age", clearCore(3).bound(3, 200, 0), 3);
+        due("no other age", clearCore(3).bound(3, 200, 1), 3);
         x.addAsh(3, 5, 1);
         due("cost()", x.cost(), 5);
         due("bound(3, 1, 1)", x.bound(3, 1, 1), 5);
@@ -736,6 +762,7 @@ public final class PromiseTest {
         due("without(-1)", x.without(-1), INVALID);
         due("count(1)", x.count(1), 3);
         due("without(0) of none", clearCore(2).without(0), INVALID);
+        due("the place can be 0 years old", laid("faint 1;ash 1 0;layer 1;ash 1 0;").without(0), 4);
         VarveClock one = laid("layer 1;ash 9 0;");
         due("without the one ash", one.without(0), 0);
         due("nothing changes", one.cost(), NONE);
@@ -883,5 +910,86 @@ public final class PromiseTest {
         for (int i = 0; i < wrongOnes.length; i++) {
             dueFault("layer 1;" + wrongOnes[i], 8);
         }
+    }
+
+    private static void faultOfFullTexts() {
+        part = "promise 26, full texts and older ones";
+        String ten = "layer 1;layer 1;layer 1;layer 1;layer 1;layer 1;layer 1;layer 1;layer 1;layer 1;";
+        String[] cut = {"la", "fa", "th", "ga", "as"};
+        for (int i = 0; i < cut.length; i++) {
+            dueFault(ten + "layer 1;" + cut[i], 88);
+        }
+        dueFault(ten.substring(0, 56) + "layer 12;layer 12;layer 12;layer 1", 83);
+        dueFault(ten.substring(0, 48) + "layer 12;layer 12;layer 12;layer 1;ash 123", 83);
+        dueFault(ten + "ash 123 45", 80);
+        dueFault(ten + "ash 5 005;", NONE);
+        String[] older = {"layer 55;", "layer 55;", "layer 5;gap 5;", "layer 5;ash 5 5;", "layer 5;ash 5 5;"};
+        String[] newer = {"layer 55", "layer 5", "layer 5;ga", "layer 5;ash 5 5", "layer 5;ash 5"};
+        for (int i = 0; i < older.length; i++) {
+            VarveClock x = new VarveClock();
+            write(x, older[i]);
+            due("fault of " + older[i], x.fault(), NONE);
+            write(x, newer[i]);
+            due("fault of " + newer[i] + " then", x.fault(), i < 2 ? 0 : 8);
+        }
+        VarveClock again = new VarveClock();
+        write(again, "layer 5;gap 5;x");
+        due("a fault", again.fault(), 14);
+        due("the same fault", again.fault(), 14);
+        write(again, "gap 5;");
+        due("no layer of an earlier reading", again.fault(), 0);
+    }
+
+    private static void fullCore() {
+        part = "a full core";
+        VarveClock x = new VarveClock();
+        for (int i = 0; i < 50; i++) {
+            x.addLayer(i, 99, i % 3, 20);
+        }
+        for (int i = 0; i < 6; i++) {
+            x.addAsh(5 + 9 * i, 10 + 20 * i, 3);
+        }
+        due("count(2)", x.count(2), 4950);
+        due("count(3)", x.count(3), 17);
+        due("count(4)", x.count(4), 16);
+        due("cost()", x.cost(), (5 + 4 * 11 + 8) * 3 + 3 * 2);
+        due("age(50)", x.age(50), 107);
+        int[] totals = {0, 0, 57, 3, 107};
+        for (int what = 0; what < totals.length; what++) {
+            due("total(" + what + ")", x.total(what), totals[what]);
+        }
+        due("offset(5)", x.offset(5), 97);
+        due("removeLayer(49)", x.removeLayer(49), 49);
+        due("count(1), the lowest one moves up", x.count(1), 6);
+        dueAsh(x, 5, 49, 110, 3);
+        due("addLayer(0)", x.addLayer(0, 1, 0, 0), 50);
+        dueAsh(x, 5, 50, 110, 3);
+        dueAsh(x, 0, 6, 10, 3);
+        due("removeAsh(5)", x.removeAsh(5), 5);
+        due("removeAsh(0)", x.removeAsh(0), 4);
+        due("widen()", x.widen(), 0);
+        due("bound(50, 200, 1) is more", x.bound(50, 200, 1) > x.age(50) ? 1 : 0, 1);
+    }
+
+    /** No call may throw, whatever its arguments are. */
+    private static void endlessArguments() {
+        part = "arguments far off";
+        int[] far = {DEEP, DEEP + 1, -2, -1, 51, 501, 601, FAR - 1, FAR};
+        VarveClock x = clearCore(50);
+        x.addAsh(50, 50, 0);
+        for (int i = 0; i < far.length; i++) {
+            int n = far[i];
+            int[] got = {x.addLayer(n, 1, 1, 1), x.removeLayer(n), x.setLayer(n, 0, 1), x.addAsh(n, 1, 1),
+                x.addAsh(1, n == 51 ? n + 600 : n, 1), x.addAsh(1, 1, n), x.removeAsh(n), x.set(n, 1), x.set(1, n), x.count(n),
+                x.layer(n, 1), x.layer(1, n), x.ash(n, 1), x.ash(0, n), x.years(n, 0), x.years(0, n), x.age(n),
+                x.offset(n), x.total(n), x.rate(n, 5, 0), x.rate(0, n, 0), x.rate(0, 1, n), x.bound(n, 1, 1),
+                x.bound(1, n == 51 ? n + 600 : n, 1), x.bound(1, 1, n), x.without(n), x.costWith(n, 1, 1),
+                x.costWith(1, n == 51 ? n + 600 : n, 1), x.costWith(1, 1, n), x.type(n == 51 ? n + 600 : n)};
+            for (int call = 0; call < got.length; call++) {
+                due("call " + call + " with " + n, got[call], INVALID);
+            }
+        }
+        due("count(9)", x.count(9), 6);
+        due("cost()", x.cost(), 0);
     }
 }
