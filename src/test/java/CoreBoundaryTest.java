@@ -221,16 +221,17 @@ public final class CoreBoundaryTest {
 
     private static void addLayerBesideAshes() {
         Subject.sentence("promise 2: ashes at the place above it stay above it, those below go down by 1");
-        String rest = "layer 2;ash 2 2;layer 3;ash 3 3";
-        Subject top = Subject.core("layer 1;ash 1 1;" + rest);
+        // Here and below the ages do not grow with the places, so that one can't stand for the other.
+        String rest = "layer 2;ash 0 2;layer 3;ash 1 3";
+        Subject top = Subject.core("layer 1;ash 400 1;" + rest);
         top.due("addLayer 0 9 0 0", 4);
-        top.dueCoreOf(Subject.core("layer 9;layer 1;ash 1 1;" + rest));
-        Subject between = Subject.core("layer 1;ash 1 1;" + rest);
+        top.dueCoreOf(Subject.core("layer 9;layer 1;ash 400 1;" + rest));
+        Subject between = Subject.core("layer 1;ash 400 1;" + rest);
         between.due("addLayer 1 9 0 0", 4);
-        between.dueCoreOf(Subject.core("layer 1;ash 1 1;layer 9;" + rest));
-        Subject bottom = Subject.core("layer 1;ash 1 1;" + rest);
+        between.dueCoreOf(Subject.core("layer 1;ash 400 1;layer 9;" + rest));
+        Subject bottom = Subject.core("layer 1;ash 400 1;" + rest);
         bottom.due("addLayer 3 9 0 0", 4);
-        bottom.dueCoreOf(Subject.core("layer 1;ash 1 1;" + rest + ";layer 9"));
+        bottom.dueCoreOf(Subject.core("layer 1;ash 400 1;" + rest + ";layer 9"));
         Subject deepest = Subject.clear(49).does("addAsh 49 49 0", "addAsh 48 48 0");
         deepest.due("addLayer 48 9 0 0", 50);
         deepest.dueAsh(0, 48, 48, 0);
@@ -259,24 +260,24 @@ public final class CoreBoundaryTest {
 
     private static void removeLayerAboveAshes() {
         Subject.sentence("promise 3: the places of the ashes below it decrease by 1, those above stay");
-        Subject x = Subject.core("layer 1;layer 2;ash 2 2;layer 3;layer 4;ash 4 4;layer 5");
+        Subject x = Subject.core("layer 1;layer 2;ash 0 2;layer 3;layer 4;ash 0 4;layer 5");
         x.due("removeLayer 4", 4);
-        x.dueCoreOf(Subject.core("layer 1;layer 2;ash 2 2;layer 3;layer 4;ash 4 4"));
+        x.dueCoreOf(Subject.core("layer 1;layer 2;ash 0 2;layer 3;layer 4;ash 0 4"));
         x.due("removeLayer 2", 3);
-        x.dueCoreOf(Subject.core("layer 1;layer 2;ash 2 2;layer 4;ash 4 4"));
+        x.dueCoreOf(Subject.core("layer 1;layer 2;ash 0 2;layer 4;ash 0 4"));
         x.due("removeLayer 0", 2);
-        x.dueCoreOf(Subject.core("layer 2;ash 2 2;layer 4;ash 4 4"));
+        x.dueCoreOf(Subject.core("layer 2;ash 0 2;layer 4;ash 0 4"));
         Subject.sentence("promise 3: an ash directly below goes up to place 1 at the least, and is kept");
-        Subject second = Subject.core("layer 1;layer 2;ash 2 2;layer 3");
+        Subject second = Subject.core("layer 1;layer 2;ash 0 2;layer 3");
         second.due("removeLayer 1", 2);
-        second.dueCoreOf(Subject.core("layer 1;ash 2 2;layer 3"));
+        second.dueCoreOf(Subject.core("layer 1;ash 0 2;layer 3"));
         Subject.sentence("promise 3: removed if its place would be 0");
         second.due("removeLayer 0", 1);
         second.dueCoreOf(Subject.core("layer 3"));
-        Subject first = Subject.core("layer 1;ash 1 1;layer 2;ash 2 2;layer 3;ash 3 3");
+        Subject first = Subject.core("layer 1;ash 400 1;layer 2;ash 0 2;layer 3;ash 1 3");
         first.due("removeLayer 0", 2);
-        first.dueCoreOf(Subject.core("layer 2;ash 2 2;layer 3;ash 3 3"));
-        Subject last = Subject.core("layer 1;ash 1 1");
+        first.dueCoreOf(Subject.core("layer 2;ash 0 2;layer 3;ash 1 3"));
+        Subject last = Subject.core("layer 1;ash 400 1");
         last.due("removeLayer 0", 0);
         last.due("count 1", 0);
         last.dueCoreOf(Subject.fresh());
@@ -284,21 +285,21 @@ public final class CoreBoundaryTest {
 
     private static void removeLayerBetweenAshes() {
         Subject.sentence("promise 3: removed if there is an ash at the place above the layer");
-        Subject x = Subject.core("layer 1;ash 1 1;layer 2;ash 2 2;layer 3;ash 3 3");
+        Subject x = Subject.core("layer 1;ash 400 1;layer 2;ash 0 2;layer 3;ash 1 3");
         x.due("removeLayer 2", 2);
-        x.dueCoreOf(Subject.core("layer 1;ash 1 1;layer 2;ash 2 2"));
+        x.dueCoreOf(Subject.core("layer 1;ash 400 1;layer 2;ash 0 2"));
         x.due("removeLayer 1", 1);
-        x.dueCoreOf(Subject.core("layer 1;ash 1 1"));
-        Subject middle = Subject.core("layer 1;ash 1 1;layer 2;ash 2 2;layer 3;ash 3 3");
+        x.dueCoreOf(Subject.core("layer 1;ash 400 1"));
+        Subject middle = Subject.core("layer 1;ash 400 1;layer 2;ash 0 2;layer 3;ash 1 3");
         middle.due("removeLayer 1", 2);
-        middle.dueCoreOf(Subject.core("layer 1;ash 1 1;layer 3;ash 3 3"));
+        middle.dueCoreOf(Subject.core("layer 1;ash 400 1;layer 3;ash 1 3"));
         Subject.sentence("promise 3: only one that lies directly below is removed");
-        Subject far = Subject.core("layer 1;ash 1 1;layer 2;layer 3;ash 3 3");
+        Subject far = Subject.core("layer 1;ash 400 1;layer 2;layer 3;ash 1 3");
         far.due("removeLayer 1", 2);
-        far.dueCoreOf(Subject.core("layer 1;ash 1 1;layer 3;ash 3 3"));
-        Subject above = Subject.core("layer 1;ash 1 1;layer 2");
+        far.dueCoreOf(Subject.core("layer 1;ash 400 1;layer 3;ash 1 3"));
+        Subject above = Subject.core("layer 1;ash 400 1;layer 2");
         above.due("removeLayer 1", 1);
-        above.dueCoreOf(Subject.core("layer 1;ash 1 1"));
+        above.dueCoreOf(Subject.core("layer 1;ash 400 1"));
         Subject.sentence("promise 3: six ashes, one at the bottom of 50 layers");
         Subject full = Subject.clear(50);
         for (int place = 45; place <= 50; place++) {

@@ -205,6 +205,13 @@ public final class CountBoundaryTest {
             x.asked("ways", row[1]);
             x.asked("bound " + (28 + row[0]) + " 0 1", row[2]);
         }
+        Subject.sentence("Counts: an age of 600 may stand above a faint layer of 0 years");
+        Subject faint = Subject.core(upper + Subject.times(16, "layer 1") + lower + "faint 1").does("set 2 0", "set 0 0");
+        faint.asked("ways", all + all - 1);
+        faint.asked("bound 44 0 1", 600);
+        faint.asked("bound 45 0 1", 600);
+        faint.does("setLayer 44 1 0").asked("ways", all - 1);
+        faint.asked("bound 44 0 1", 599);
         Subject.sentence("Counts: no age may be greater than 600, the best one near to it");
         Subject high = Subject.core(upper + Subject.times(26, "layer 1"));
         high.asked("age 24", 500);
@@ -535,6 +542,11 @@ public final class CountBoundaryTest {
         two.asked("without 0", 2);
         two.refused("without 1", NONE);
         two.refused("without 2", NONE);
+        Subject.sentence("promise 21: without the ash its place can still be 0 years old");
+        Subject zero = Subject.core("faint 1;ash 1 0;faint 1;ash 0 0");
+        zero.asked("cost", NONE);
+        zero.asked("without 0", 8);
+        zero.asked("without 1", 0);
         Subject.sentence("promise 21: the only ash, at the bottom of one layer");
         Subject only = Subject.core("layer 1;ash 9 0");
         only.asked("without 0", 0);

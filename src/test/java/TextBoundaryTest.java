@@ -248,6 +248,10 @@ public final class TextBoundaryTest {
             wrong(heads[i] + "1:" + tails[i]);
         }
         wrong("ash 5;");
+        wrong("ash 55;");
+        wrong("ash 1235;");
+        wrong("ash 0005;");
+        wrong("ash 12345;");
         wrong("ash 5 5 5;");
         wrong("layer 5 5;");
         wrong("gap 5 5;");
