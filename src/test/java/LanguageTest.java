@@ -1,4 +1,5 @@
 import java.io.IOException;
+import java.lang.reflect.Constructor;
 import java.lang.reflect.Field;
 import java.lang.reflect.Method;
 import java.lang.reflect.Modifier;
@@ -37,7 +38,9 @@ public final class LanguageTest {
     public static void main(String[] args) throws IOException {
         face();
         names();
-        source(new String(Files.readAllBytes(Path.of("src/main/java/VarveClock.java")), StandardCharsets.UTF_8));
+        String text = new String(Files.readAllBytes(Path.of("src/main/java/VarveClock.java")), StandardCharsets.UTF_8);
+        source(text);
+        lengths(text.split("\n"));
         System.out.println(wrong == 0 ? "the rules are kept" : wrong + " rules are not kept");
         if (wrong != 0) {
             System.exit(1);
@@ -56,7 +59,10 @@ public final class LanguageTest {
         if (!found.equals(new TreeSet<>(Arrays.asList(FACE)))) {
             fail("rule 1: the face is " + found);
         }
-        if (!Modifier.isFinal(VarveClock.class.getModifiers()) || VarveClock.class.getConstructors().length != 1) {
+        Constructor<?>[] constructors = VarveClock.class.getDeclaredConstructors();
+        int modifiers = VarveClock.class.getModifiers();
+        if (!Modifier.isPublic(modifiers) || !Modifier.isFinal(modifiers) || constructors.length != 1
+                || !Modifier.isPublic(constructors[0].getModifiers()) || constructors[0].getParameterCount() != 0) {
             fail("rule 1: the class or its constructor");
         }
         for (Field field : VarveClock.class.getDeclaredFields()) {
@@ -81,12 +87,18 @@ public final class LanguageTest {
             int fields = 0;
             for (Field field : one.getDeclaredFields()) {
                 fields += Modifier.isStatic(field.getModifiers()) ? 0 : 1;
+                if (Modifier.isStatic(field.getModifiers()) && !Modifier.isFinal(field.getModifiers())) {
+                    fail("rule 5: " + field);
+                }
             }
             if (fields > 20) {
                 fail("rule 11: " + fields + " fields in " + one);
             }
             if (one != VarveClock.class && !Modifier.isStatic(one.getModifiers())) {
                 fail("rule 2: " + one);
+            }
+            if (one != VarveClock.class && (one.getModifiers() & (Modifier.PUBLIC | Modifier.PROTECTED)) != 0) {
+                fail("rule 1: " + one);
             }
             for (Method method : one.getDeclaredMethods()) {
                 if (method.getParameterCount() > 7) {
@@ -113,6 +125,23 @@ public final class LanguageTest {
         while (made.find()) {
             if (!Set.of("Core", "History", "Script", "Reckoning", "int", "char").contains(made.group(1))) {
                 fail("rule 3: " + made.group());
+            }
+        }
+    }
+
+    /** A method begins with a line in a class that ends with "{", and ends with a "}" as far in. */
+    private static void lengths(String[] lines) {
+        Pattern head = Pattern.compile("( {4}| {8})(?:[\\w\\[\\]]+ )*\\w+\\(.*\\) \\{");
+        for (int i = 0; i < lines.length; i++) {
+            Matcher matcher = head.matcher(lines[i]);
+            if (matcher.matches()) {
+                int end = i;
+                while (end < lines.length && !lines[end].equals(matcher.group(1) + "}")) {
+                    end++;
+                }
+                if (end - i > 60) {
+                    fail("rule 11: " + (end - i) + " lines: " + lines[i].trim());
+                }
             }
         }
     }
